@@ -892,6 +892,7 @@ public final class SharedShadow {
   private static final class Rest {
     final Land to = new Land();
     private final int[] have = new int[DAY];
+    private int first = 0;
     private int left = 0;
 
     void see(Land from) {
@@ -901,11 +902,12 @@ public final class SharedShadow {
 
     void begin(Land from) {
       to.become(from);
+      first = from.hour;
       left = from.hoursLeft();
     }
 
     void run() {
-      for (int h = to.hour; h < DAY; h++) {
+      for (int h = first; h < DAY; h++) {
         have[h] = to.havers();
         to.passHour(have[h]);
       }
@@ -956,11 +958,10 @@ public final class SharedShadow {
     }
 
     boolean isShadowSet(int hour, int set) {
-      return isWithin(hour, DAY - 1) && bit(left, hour) == 1 && have[hour] == set;
+      return hour >= first && hour < DAY && have[hour] == set;
     }
 
     boolean isShadeOf(int person, Sheet told) {
-      int first = DAY - Integer.bitCount(left);
       for (int h = first; h < DAY && h - first < told.length; h++) {
         if (bit(have[h], person) != bit(told.numbers[h - first], person)) {
           return false;
@@ -1231,7 +1232,8 @@ public final class SharedShadow {
     private static final int WORD = 1;
     private static final int NUMBER = 2;
     private static final int SIGN = 3;
-    private static final int OTHER = 4;
+    private static final int BLANK = 4;
+    private static final int OTHER = 5;
     private static final int MOST_NUMBER = 99999;
     private static final int MOST_TOKENS = Tape.MOST_BYTES + 1;
 
@@ -1263,26 +1265,16 @@ public final class SharedShadow {
     private void split() {
       tokens = 0;
       next = 0;
-      int place = 0;
-      while (place < tape.length) {
-        int end = endOfToken(place);
-        if (tape.byteAt(place) != ' ') {
-          keepToken(typeOf(tape.byteAt(place)), place, end);
-        }
-        place = end;
-      }
-      keepToken(END, place, place);
-    }
-
-    private int endOfToken(int place) {
-      int type = typeOf(tape.byteAt(place));
-      int end = place + 1;
-      if (type == WORD || type == NUMBER) {
-        while (end < tape.length && typeOf(tape.byteAt(end)) == type) {
-          end++;
+      for (int i = 0; i < tape.length; i++) {
+        int type = typeOf(tape.byteAt(i));
+        boolean isOfRun = type == WORD || type == NUMBER;
+        if (isOfRun && tokens > 0 && typeOf(tape.byteAt(i - 1)) == type) {
+          ends[tokens - 1] = i + 1;
+        } else if (type != BLANK) {
+          keepToken(type, i, i + 1);
         }
       }
-      return end;
+      keepToken(END, tape.length, tape.length);
     }
 
     private void keepToken(int type, int place, int end) {
@@ -1300,6 +1292,9 @@ public final class SharedShadow {
       }
       if (b >= '0' && b <= '9') {
         return NUMBER;
+      }
+      if (b == ' ') {
+        return BLANK;
       }
       return b == ';' ? SIGN : OTHER;
     }
