@@ -638,7 +638,7 @@ public final class SharedShadow {
   // a is below b: the AGREEMENT's sides are 0 and 1 in this order.
   private boolean wouldRatherAgree(int a, int b) {
     agreement.make(land, a, b);
-    return agreement.metOf(0) > rest.metOf(a) && agreement.metOf(1) > rest.metOf(b);
+    return agreement.metOfSide(0) > rest.metOf(a) && agreement.metOfSide(1) > rest.metOf(b);
   }
 
   private int duelForce(int person, int against) {
@@ -993,12 +993,12 @@ public final class SharedShadow {
       needs[1] = land.needs[who[1]];
       shared = land.hoursLeft() & land.lit;
       dark = land.hoursLeft() & ~land.lit;
-      weigh();
+      weighBehind();
       choose();
     }
 
     // behind[2 * h + side]: the best from HOUR h on, if that side had the shadow ahead of it.
-    private void weigh() {
+    private void weighBehind() {
       behind[2 * DAY] = 0;
       behind[2 * DAY + 1] = 0;
       for (int h = DAY - 1; h >= 0; h--) {
@@ -1035,12 +1035,12 @@ public final class SharedShadow {
       return who[bit(held[1], hour)];
     }
 
-    int metOf(int side) {
+    int metOfSide(int side) {
       return isWithin(side, 1) ? Integer.bitCount(needs[side] & (dark | held[side])) : 0;
     }
 
     int metOfBoth() {
-      return metOf(0) + metOf(1);
+      return metOfSide(0) + metOfSide(1);
     }
 
     int countChanges() {
@@ -1242,6 +1242,8 @@ public final class SharedShadow {
     private final int[] types = new int[MOST_TOKENS];
     private final int[] places = new int[MOST_TOKENS];
     private final int[] ends = new int[MOST_TOKENS];
+    // Of a NUMBER: what it tells, or one more than any may tell.
+    private final int[] values = new int[MOST_TOKENS];
     private int tokens = 0;
     private int next = 0;
 
@@ -1268,21 +1270,31 @@ public final class SharedShadow {
       for (int i = 0; i < tape.length; i++) {
         int type = typeOf(tape.byteAt(i));
         boolean isOfRun = type == WORD || type == NUMBER;
-        if (isOfRun && tokens > 0 && typeOf(tape.byteAt(i - 1)) == type) {
-          ends[tokens - 1] = i + 1;
-        } else if (type != BLANK) {
-          keepToken(type, i, i + 1);
+        if (!isOfRun || tokens == 0 || typeOf(tape.byteAt(i - 1)) != type) {
+          beginToken(type, i);
+        }
+        if (isOfRun) {
+          lengthenToken(i);
         }
       }
-      keepToken(END, tape.length, tape.length);
+      beginToken(END, tape.length);
     }
 
-    private void keepToken(int type, int place, int end) {
-      if (tokens < MOST_TOKENS) {
+    private void beginToken(int type, int place) {
+      if (type != BLANK && tokens < MOST_TOKENS) {
         types[tokens] = type;
         places[tokens] = place;
-        ends[tokens] = end;
+        ends[tokens] = place;
+        values[tokens] = 0;
         tokens++;
+      }
+    }
+
+    private void lengthenToken(int place) {
+      int last = tokens - 1;
+      if (last >= 0) {
+        ends[last] = place + 1;
+        values[last] = Math.min(10 * values[last] + tape.byteAt(place) - '0', MOST_NUMBER + 1);
       }
     }
 
@@ -1316,7 +1328,7 @@ public final class SharedShadow {
 
     private boolean readLight() {
       step();
-      int set = numberOr(0);
+      int set = values[next];
       if (!takeNumber(ALL_HOURS)) {
         return false;
       }
@@ -1326,7 +1338,7 @@ public final class SharedShadow {
 
     private boolean readHour() {
       step();
-      int hour = numberOr(0);
+      int hour = values[next];
       if (!takeNumber(DAY)) {
         return false;
       }
@@ -1350,7 +1362,7 @@ public final class SharedShadow {
         return true;
       }
       step();
-      int trait = numberOr(0);
+      int trait = values[next];
       if (!takeNumber(most) || !isWithin(person, row.length - 1)) {
         return false;
       }
@@ -1360,11 +1372,11 @@ public final class SharedShadow {
 
     private boolean readShare() {
       step();
-      int a = numberOr(NOBODY);
+      int a = values[next];
       if (!takeNumber(draft.people - 1)) {
         return false;
       }
-      int b = numberOr(NOBODY);
+      int b = values[next];
       if (b == a || !takeNumber(draft.people - 1)) {
         return false;
       }
@@ -1383,23 +1395,11 @@ public final class SharedShadow {
     }
 
     private boolean takeNumber(int most) {
-      if (!isNext(NUMBER) || numberOr(0) > most) {
+      if (!isNext(NUMBER) || values[next] > most) {
         return false;
       }
       step();
       return true;
-    }
-
-    /** The NUMBER that is next (one too great for any NUMBER is told as the least such), or another answer. */
-    private int numberOr(int other) {
-      if (!isNext(NUMBER)) {
-        return other;
-      }
-      int number = 0;
-      for (int i = places[next]; i < ends[next]; i++) {
-        number = Math.min(10 * number + tape.byteAt(i) - '0', MOST_NUMBER + 1);
-      }
-      return number;
     }
 
     private boolean isWord(String word) {
