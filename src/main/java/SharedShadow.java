@@ -697,9 +697,6 @@ public final class SharedShadow {
     int drawn = 1;
 
     Land() {
-      for (int p = 0; p < MOST_PEOPLE; p++) {
-        partner[p] = NOBODY;
-      }
       for (int s = 0; s < SPOTS; s++) {
         spots[s] = NOBODY;
       }
@@ -740,7 +737,6 @@ public final class SharedShadow {
       return ALL_HOURS << hour & ALL_HOURS;
     }
 
-    /** Behind an undo the rows may still hold an earlier person of this number: all is set anew. */
     int add(int newKind) {
       if (isFull()) {
         return NOBODY;
@@ -1270,7 +1266,7 @@ public final class SharedShadow {
       for (int i = 0; i < tape.length; i++) {
         int type = typeOf(tape.byteAt(i));
         boolean isOfRun = type == WORD || type == NUMBER;
-        if (!isOfRun || tokens == 0 || typeOf(tape.byteAt(i - 1)) != type) {
+        if (!isOfRun || typeOf(tape.byteAt(i - 1)) != type) {
           beginToken(type, i);
         }
         if (isOfRun) {
@@ -1284,7 +1280,6 @@ public final class SharedShadow {
       if (type != BLANK && tokens < MOST_TOKENS) {
         types[tokens] = type;
         places[tokens] = place;
-        ends[tokens] = place;
         values[tokens] = 0;
         tokens++;
       }

@@ -13,6 +13,9 @@ public final class PromisesTest {
   private static final int MAX = Integer.MAX_VALUE;
   private static final int[] WRONG_PEOPLE = {-1, 2, 8, MIN, MAX};
 
+  // From this z on more HOURS are in light than not.
+  private static final int LIGHT_SEED = 1;
+
   private static final Checks checks = new Checks();
   private static SharedShadow x = new SharedShadow();
 
@@ -252,6 +255,15 @@ public final class PromisesTest {
       due("claim odd of " + p, x.claim(p, 7), odd[p]);
       due("claim at 8 of " + p, x.claim(p, 8), p == 6 ? 99 : even[p]);
     }
+    suns(0, 0, 0, 8, 9);
+    due("claim of a lender", x.claim(3, 0), 9);
+    due("claim of a beggar", x.claim(4, 0), 9);
+    for (int p = 0; p < 8; p++) {
+      int kind = x.change(p, 0, TWIN);
+      due("a twin's like hour " + p, x.claim(p, p), 50);
+      due("a twin's unlike hour " + p, x.claim(p, p + 1), 0);
+      x.change(p, 0, kind);
+    }
     x.change(6, 1, 99);
     x.change(6, 2, 9);
     due("claim above 99", x.claim(6, 9), 117);
@@ -264,7 +276,7 @@ public final class PromisesTest {
     due("claim of nobody", x.claim(8, 0), BEYOND);
     due("claim of -1", x.claim(-1, 0), BEYOND);
     x.at(16);
-    due("claim, day over", x.claim(2, 3), 17);
+    due("claim, day over", x.claim(2, 3), 10);
   }
 
   private static void promise9go() {
@@ -724,6 +736,13 @@ public final class PromisesTest {
     due("may, alone", x.may(0, 2), 0b100);
     row(0, 16, 0b111);
     due("may, none", x.may(0, 0), 0);
+    row(0, 16, 0b1011);
+    due("may, a person that isn't", x.may(0, 0), 0);
+    x.share(0, 1);
+    row(0, 16, 0b011);
+    due("may, whatever is shared now", x.may(0, 0), 0b101);
+    due("fits, whatever is shared now", x.fits(0), 2);
+    x.part(0);
     due("may, nobody", x.may(0, 3), BEYOND);
     due("may -1", x.may(0, -1), BEYOND);
     x.person(0);
@@ -743,6 +762,8 @@ public final class PromisesTest {
     due("duel, like strength", x.duel(1, 0), 0);
     x.change(0, 2, 9);
     due("duel by strength", x.duel(0, 1), 0);
+    x.change(0, 2, 7);
+    due("duel, 3 for the shadow", x.duel(0, 1), 1);
     x.light(65535 & ~256);
     x.change(0, 2, 5);
     due("duel in the dark", x.duel(0, 1), 0);
@@ -799,33 +820,17 @@ public final class PromisesTest {
     x.days(1);
     due("days, light of a z below 0", x.now(3), 14817);
     due("days, z below 0", x.count(6), -1103502900);
-    tooMany(0, 90000);
-    tooMany(1, 90000);
+    manyDays();
+    manyMissed();
   }
 
-  // 8 people with all NEEDS: 128 a day. Of mates 4 miss at each HOUR in light.
-  private static void tooMany(int mates, int most) {
+  private static void eightWithAllNeeds() {
     land(0, 0, 0, 0, 0, 0, 0, 0);
     needs(65535, 65535, 65535, 65535, 65535, 65535, 65535, 65535);
-    for (int p = 0; p < 8 * mates; p += 2) {
-      x.share(p, p + 1);
-    }
-    int calls = 0;
-    while (x.now(1) <= most && x.now(2) <= most && calls < 120) {
-      due("days go on", x.days(20) > 0 ? 1 : 0, 1);
-      calls++;
-    }
-    due("days, too many", x.days(1), STATE);
-    due("days 21, too many", x.days(21), BEYOND);
-    due("enough days", calls < 120 ? 1 : 0, 1);
-    x.at(0);
-    due("hours go on", x.go(1) > 0 ? 1 : 0, 1);
-    exactly90000();
   }
 
-  private static void exactly90000() {
-    land(0, 0, 0, 0, 0, 0, 0, 0);
-    needs(65535, 65535, 65535, 65535, 65535, 65535, 65535, 65535);
+  private static void manyDays() {
+    eightWithAllNeeds();
     for (int i = 0; i < 35; i++) {
       x.days(20);
     }
@@ -833,8 +838,55 @@ public final class PromisesTest {
     due("days to 89984", x.days(3), 89984);
     x.at(0);
     due("to 90000", x.go(2), 90000);
+    x.image();
     due("90000 isn't above", x.days(1), 90128);
     due("90128 is", x.days(1), STATE);
+    due("days 21 all the same", x.days(21), BEYOND);
+    x.at(0);
+    due("hours go on", x.go(1), 90136);
+    x.undo();
+    for (int p = 1; p < 8; p++) {
+      x.change(p, 3, 0);
+    }
+    due("to 90001", x.go(1), 90001);
+    due("90001 is above", x.days(1), STATE);
+  }
+
+  // A TWIN of an even number and an OLD one: at an even HOUR the TWIN has the shadow, at an odd one the other;
+  // each needs it when the other has it: in light all is missed, in the dark all is met.
+  private static void manyMissed() {
+    land(TWIN, OLD, TWIN, OLD, TWIN, OLD, TWIN, OLD);
+    needs(0xAAAA, 0x5555, 0xAAAA, 0x5555, 0xAAAA, 0x5555, 0xAAAA, 0x5555);
+    for (int p = 0; p < 8; p += 2) {
+      x.share(p, p + 1);
+    }
+    x.seed(LIGHT_SEED);
+    for (int i = 0; i < 200 && x.now(2) < 89000; i++) {
+      x.days(20);
+    }
+    checks.holds("less is met than missed", x.now(1) < 90000 && x.now(2) < 90000);
+    x.light(65535);
+    missUpTo(89936, 0, 16);
+    // HOUR 1: the four TWINS miss their needs; of one alone, one is missed.
+    missUpTo(89996, 1, 1);
+    needs(2, 0, 0, 0, 0, 0, 0, 0);
+    missUpTo(90000, 1, 1);
+    due("missed 90000", x.now(2), 90000);
+    x.image();
+    checks.holds("90000 missed isn't above", x.days(1) > 0);
+    x.undo();
+    x.at(1);
+    x.light(65535);
+    x.go(1);
+    due("missed 90001", x.now(2), 90001);
+    due("90001 missed is above", x.days(1), STATE);
+  }
+
+  private static void missUpTo(int most, int hour, int hours) {
+    for (int i = 0; i < 50 && x.now(2) < most; i++) {
+      x.at(hour);
+      x.go(hours);
+    }
   }
 
   private static void promise33seed() {
@@ -926,6 +978,10 @@ public final class PromisesTest {
     fault("old old", 4);
     fault("old 5", 4);
     fault("olds", 0);
+    fault("oldz", 0);
+    fault("alt", 0);
+    fault("mld", 0);
+    fault("hour", 4);
     fault(" sun 5", 1);
     fault("old needs 1 strength 2", 12);
     fault("old sun 1 sun 2", 10);
@@ -1076,6 +1132,8 @@ public final class PromisesTest {
     due("copy to another", x.copy(0, 2, 1, 1, 2), 2);
     x.load(1);
     due("from its begin", x.of(0, 1) * 10000 + x.of(1, 1) * 100 + x.of(2, 1), 500304);
+    due("copy all", x.copy(1, 0, 1, 0, 3), 3);
+    due("copy all to a longer one", x.copy(1, 0, 0, 2, 3), 3);
     due("copy none", x.copy(0, 5, 1, 3, 0), 0);
     due("copy none beyond", x.copy(0, 6, 1, 0, 0), BEYOND);
     due("copy too many from", x.copy(0, 4, 1, 0, 2), BEYOND);
@@ -1151,13 +1209,14 @@ public final class PromisesTest {
   private static void promise44image() {
     land(OLD, PERSON);
     suns(4, 5);
-    needs(1, 2);
+    needs(1, 3);
     x.change(1, 2, 8);
     x.share(0, 1);
     x.light(77);
     x.seed(5);
     x.hold(3, 1);
     x.go(2);
+    due("some was missed", x.now(2), 1);
     int met = x.now(1), missed = x.now(2), sun = x.of(1, 1);
     x.feed(0, 2);
     row(0, 8, 1);
@@ -1172,11 +1231,14 @@ public final class PromisesTest {
     x.seed(6);
     x.hold(3, -1);
     x.hold(4, 2);
+    x.share(0, 1);
+    x.at(0);
     x.go(3);
+    checks.holds("more was missed", x.now(2) > missed);
     x.feed(0, 1);
     row(0, 8, 2, 3);
     due("undo", x.undo(), 2);
-    int[] was = {PERSON, sun, 8, 2, 0};
+    int[] was = {PERSON, sun, 8, 3, 0};
     for (int what = 0; what < 5; what++) {
       due("was " + what, x.of(1, what), was[what]);
     }
