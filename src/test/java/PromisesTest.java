@@ -958,6 +958,10 @@ public final class PromisesTest {
       many.append(";light5");
     }
     due("many items", read(many.toString()), 17);
+    due("a full tape", read("light 7;".repeat(14) + "light 08"), 15);
+    due("light by a full tape", x.now(3), 8);
+    due("a full tape, too early its end", read("light 9;".repeat(15)), -121);
+    due("light then", x.now(3), 8);
   }
 
   private static void fault(String text, int place) {
