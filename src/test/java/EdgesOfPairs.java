@@ -306,6 +306,19 @@ final class EdgesOfPairs extends Edges {
           due(x.fits(0), 1);
           row(0, 8, 2, 1, 2);
           due(x.fits(0), 0);
+          row(0, 8, 1, 1, 1);
+          due(x.fits(0), 0);
+        });
+    edge("are just the sets that a sheet tells", "not both of two MATES, nor none of them",
+        broken("boolean weighByShade(", "rest.isShadeOf(a, told) && rest.isShadeOf(b, told)",
+            "rest.isShadeOf(a, told) || rest.isShadeOf(b, told)"), () -> {
+          crowd(2);
+          row(0, 8, 3);
+          due(x.fits(0), 0);
+          row(0, 8, 0);
+          due(x.fits(0), 0);
+          row(0, 8, 1);
+          due(x.fits(0), 1);
         });
     edge("are just the sets that a sheet tells", "an empty sheet: all PAIRINGS",
         broken("public int fits", "weighByShade(sheets[s]) ?",

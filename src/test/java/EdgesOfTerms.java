@@ -445,6 +445,17 @@ final class EdgesOfTerms extends Edges {
           x.light(5);
           due(x.changes(0, 1), 1);
         });
+    edge("than at the HOUR in LIGHT ahead of it", "what comes behind a dark HOUR is foreseen, on both sides",
+        broken("void weighBehind()", ": behind[2 * h + 2 + side]", ": behind[2 * h + 2]"), () -> {
+          crowd(2);
+          x.light(65535 - 2);
+          needs(0, 4);
+          due(x.changes(0, 1), 0);
+          due(x.holder(0, 1, 0), 1);
+          needs(4, 0);
+          due(x.changes(0, 1), 0);
+          due(x.holder(0, 1, 0), 0);
+        });
     edge("(in THE REST)", "the first HOUR of THE REST is no CHANGE",
         broken("void choose()", "int ahead = NOBODY", "int ahead = 0"), () -> {
           crowd(2);

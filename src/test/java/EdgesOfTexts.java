@@ -179,6 +179,16 @@ final class EdgesOfTexts extends Edges {
   }
 
   private void items() {
+    edge("ITEM: person, strong, old, lender, beggar, twin or duellist", "each KIND has its WORD, no other has one",
+        broken("boolean readItem()", "kindOfWord() >= 0", "kindOfWord() > 0"), () -> {
+          due(read("person;strong;old;lender;beggar;twin;duellist"), 7);
+          int[] kinds = {PERSON, STRONG, OLD, LENDER, BEGGAR, TWIN, DUELLIST};
+          for (int p = 0; p < 7; p++) {
+            due(x.of(p, 0), kinds[p]);
+          }
+          fault("parson", 0);
+          fault("duelist", 0);
+        });
     edge("TEXT: ITEM { ; ITEM }.", "one ITEM, as many as can be",
         broken("int read(Land", "items < MOST_TOKENS", "items < 2"), () -> {
           due(read("old"), 1);
@@ -296,6 +306,25 @@ final class EdgesOfTexts extends Edges {
           fault("sun 5", 0);
           fault("hours 5", 0);
           fault("old;moon 5", 4);
+        });
+    edge("another WORD", "one that is unlike in its first letter, or its last",
+        broken("boolean isWord(", "int i = 0;", "int i = 1;"), () -> {
+          fault("mld", 0);
+          fault("ole", 0);
+          fault("old run 5", 4);
+          fault("old sum 5", 4);
+          fault("right 5", 0);
+        });
+    edge("or how many bytes there are if it ends too early", "behind each WORD that a NUMBER must follow",
+        broken("boolean readLight()", "return false;", "return true;"), () -> {
+          crowd(1);
+          fault("light", 5);
+          fault("hour", 4);
+          fault("share", 5);
+          fault("old sun", 7);
+          fault("old strength", 12);
+          fault("old needs", 9);
+          due(x.count(1), 1);
         });
     edge("a byte that begins no TOKEN", "its own place", broken("int typeOf(", "SIGN : OTHER", "SIGN : BLANK"), () -> {
       fault("#", 0);
