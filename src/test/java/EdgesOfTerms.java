@@ -134,6 +134,25 @@ final class EdgesOfTerms extends Edges {
       refused(FULL, s -> s.person(0));
       due(x.count(1), 8);
     });
+    edge("1 STRONG, 2 OLD, 5 TWIN under PERSON; 3 LENDER under OLD; 4 BEGGAR under LENDER; 6 DUELLIST under STRONG",
+        "each KIND is of those above it, of no other",
+        broken("class Land", "UNDER = {-1, 0, 0, 2, 3, 0, 1}", "UNDER = {-1, 0, 0, 2, 3, 0, 2}"), () -> {
+          int[][] above = {{0}, {1, 0}, {2, 0}, {3, 2, 0}, {4, 3, 2, 0}, {5, 0}, {6, 1, 0}};
+          for (int p = 0; p < 7; p++) {
+            x.person(p);
+            x.hold(p, p);
+            int asked = 0;
+            for (int kind : above[p]) {
+              due(x.as(p, kind), p);
+              asked |= 1 << kind;
+            }
+            for (int kind = 0; kind < 7; kind++) {
+              if ((asked >> kind & 1) == 0) {
+                due(x.as(p, kind), KIND);
+              }
+            }
+          }
+        });
     edge("SUN (0 to 99; 0 at first)", "0 at first, also for a number that was used ahead of undo()",
         broken("int add(", "sun[people] = 0;", "sun[people] = 1;"), () -> {
           x.image();
@@ -483,6 +502,14 @@ final class EdgesOfTerms extends Edges {
           needs(0x5555, 0xAAAA);
           due(x.agree(0, 1), 16);
           due(x.changes(0, 1), 15);
+        });
+    edge("of several with the fewest CHANGES", "HOUR 15 is foreseen from the first HOUR on",
+        broken("void weighBehind()", "int h = DAY - 1", "int h = DAY - 2"), () -> {
+          crowd(2);
+          needs(0, 32768);
+          due(x.agree(0, 1), 1);
+          due(x.changes(0, 1), 0);
+          due(x.holder(0, 1, 0), 1);
         });
     edge("of several with the fewest CHANGES", "a free HOUR stays with who had it",
         broken("void weighBehind()", "worthOf(1 - side, h) - 1", "worthOf(1 - side, h)"), () -> {
